@@ -225,6 +225,12 @@ public final class PromisesTest {
         due("sorts till they are full", x.sorts(4, 0, 3), 2);
         due("sorts when full", x.sorts(4, 0, 3), 0);
         due("of(7, 0)", x.of(7, 0), 1);
+        FullerSquare y = new FullerSquare();
+        y.square(9, 0);
+        putAll(y, 0, 1, 1, 0, 10, 1, 0);
+        due("sorts(0, -1, 1) of what would be one", y.sorts(0, -1, 1), 0);
+        due("count(2)", y.count(2), 0);
+        due("sorts(0, 2, 1)", y.sorts(0, 2, 1), 1);
     }
 
     private static void tape() {
@@ -445,6 +451,10 @@ public final class PromisesTest {
         gives("0010-0008", 2);
         gives("(9999*9999*9999<0)+1", 2);
         gives("(0<1)+(1>0)", 2);
+        gives("-k" + "+k".repeat(58) + "+2", 2);
+        gives("0?3;".repeat(29) + "1?2", 2);
+        gives("1+((((((1|0)&3)=1)+2)*3-1)%5)-2", 2);
+        gives("((((1|1&1=1+1*(0|0&0=0+1*(1|1&1=1+1*1)))))+1)", 2);
     }
 
     private static void namesInLaws() {
@@ -474,6 +484,12 @@ public final class PromisesTest {
         y.run();
         due("n is how many are left: told(10)", y.told(10), 2);
         due("told(11)", y.told(11), 8);
+        FullerSquare even = pair(9);
+        even.sort(30, 1, 0);
+        even.sort(30, 11, 0);
+        feedAll(even, "f");
+        even.run();
+        due("of like ones seen the least: told(10)", even.told(10), 6);
         FullerSquare z = pair(1);
         z.sort(30, 1, 0);
         z.sort(30, 11, 1);
@@ -512,6 +528,11 @@ public final class PromisesTest {
         due("outside: told(4)", x.told(4), 1);
         due("told(11)", x.told(11), 3);
         due("at first HOLDS does not matter: led(0, 1, -1)", x.led(0, 1, -1), 2);
+        FullerSquare like = pair(2);
+        like.way(1, 2, 9);
+        like.sort(51, 1, 0);
+        like.run();
+        due("of like WAYS the first: led(0, 0, 0)", like.led(0, 0, 0), 3);
         FullerSquare y = new FullerSquare();
         y.square(999, 0);
         y.square(2, 1);
@@ -983,23 +1004,37 @@ public final class PromisesTest {
         promise = 24;
         FullerSquare y = pair(1);
         y.sort(0, 1, 0);
+        y.sort(0, 1, 0);
+        y.mend(0, 1, 0);
+        y.mend(1, 1, 0);
         for (int i = 1; i <= 43; i++) {
-            y.mend(0, 0, i);
+            y.mend(i / 2 % 2, i % 2, i);
         }
         due("count(5)", y.count(5), 40);
         for (int i = 39; i >= 0; i--) {
             due("undo()", y.undo(), i);
+            fourths(y, i + 3);
         }
         due("undo()", y.undo(), STATE);
-        due("of(0, 0)", y.of(0, 0), 3);
         promise = 25;
         for (int i = 39; i >= 0; i--) {
             due("redo()", y.redo(), i);
+            fourths(y, 43 - i);
         }
         due("redo()", y.redo(), STATE);
-        due("of(0, 0)", y.of(0, 0), 43);
         y.mend(0, 0, 43);
         due("a change to the same is one", y.undo(), 39);
+    }
+
+    /** By i changes, the n-th of which made MANY or HOLDS (n % 2) of number n / 2 % 2 to n. */
+    private static void fourths(FullerSquare x, int i) {
+        for (int kind = 0; kind < 4; kind++) {
+            int latest = 0;
+            for (int n = 1; n <= i; n++) {
+                latest = n % 4 == kind ? n : latest;
+            }
+            due("behind " + i + " changes", x.of(kind / 2, kind % 2 == 0 ? 0 : 10), latest);
+        }
     }
 
     // ---- acts, shelves
