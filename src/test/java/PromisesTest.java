@@ -185,6 +185,9 @@ public final class PromisesTest {
         due("sort(MAX, MAX, MAX)", x.sort(MAX, MAX, MAX), BAD);
         due("sort(0, 1, -1)", x.sort(0, 1, -1), BAD);
         due("sort(0, 1, 4)", x.sort(0, 1, 4), BAD);
+        x.square(0, 0);
+        due("sort(0, 10, 0)", x.sort(0, 10, 0), BAD);
+        due("sort(0, 14, 0)", x.sort(0, 14, 0), BAD);
         due("sort(2001, 3, 3)", x.sort(2001, 3, 3), 0);
         for (int i = 1; i < 8; i++) {
             due("sort(0, 1, 0)", x.sort(0, 1, 0), i);
@@ -452,6 +455,7 @@ public final class PromisesTest {
         gives("(9999*9999*9999<0)+1", 2);
         gives("(0<1)+(1>0)", 2);
         gives("-k" + "+k".repeat(58) + "+2", 2);
+        gives("0?-k" + "+k".repeat(58), 0);
         gives("0?3;".repeat(29) + "1?2", 2);
         gives("1+((((((1|0)&3)=1)+2)*3-1)%5)-2", 2);
         gives("((((1|1&1=1+1*(0|0&0=0+1*(1|1&1=1+1*1)))))+1)", 2);
@@ -684,7 +688,7 @@ public final class PromisesTest {
         due("last(120)", x.last(120), 0);
         x.set(0, 14);
         due("last(120)", x.last(120), NOT);
-        int[] bad = {0, 11, 22, 4, 40, 201, -1, -12, MIN, MAX, 1001};
+        int[] bad = {0, 11, 22, 4, 40, 111, 201, -1, -12, MIN, MAX, 1001};
         for (int kab : bad) {
             due("last(" + kab + ")", x.last(kab), BAD);
         }
@@ -702,7 +706,15 @@ public final class PromisesTest {
         due("flow(102)", x.flow(102), 2 * 2);
         x.set(0, 23);
         due("flow(102)", x.flow(102), 0);
-        int[] bad = {0, 11, 22, 4, 40, 201, -1, -12, MIN, MAX, 1001};
+        FullerSquare y = pair(1);
+        for (int i = 1; i < 12; i++) {
+            y.way(i % 2 == 0 ? 1 : 10, 1, i);
+        }
+        y.sort(401, 1, 0);
+        due("flow(1) over twelve WAYS", y.flow(1), 29 + 66 * 30);
+        y.run();
+        due("a run over one of twelve WAYS: led(0, 0, 0)", y.led(0, 0, 0), 39);
+        int[] bad = {0, 11, 22, 4, 40, 111, 201, -1, -12, MIN, MAX, 1001};
         for (int kab : bad) {
             due("flow(" + kab + ")", x.flow(kab), BAD);
         }
@@ -823,7 +835,7 @@ public final class PromisesTest {
         due("bell of 99", x.bell(0, 0), NOT);
         putAll(x, 0, 0, -1, 101, 0, 0, 0, 0, 0, 0, 0, 0);
         due("bell of one that is not so", x.bell(0, 0), NOT);
-        putAll(x, 0, 0, -28, 100, 28, 0, 0, 0, 0, 0, 0, 0);
+        putAll(x, 0, 0, -1, 100, 1, 0, 0, 0, 0, 0, 0, 0);
         due("bell of one below 0", x.bell(0, 0), NOT);
         x.square(99, 0);
         x.square(99, 1);
@@ -922,6 +934,14 @@ public final class PromisesTest {
         due("serves(0): DONE is its WANT", x.serves(0), 2);
         feedAll(x, "1");
         due("serves(0): BY is greatest", x.serves(0), 3);
+        FullerSquare even = pair(9);
+        even.square(99, 0);
+        even.way(2, 1, 9);
+        even.sort(31, 1, 0);
+        even.sort(31, 11, 3);
+        feedAll(even, "q");
+        feedAll(even, "2");
+        due("serves(0): DONE is its WANT by none", even.serves(0), 1);
         FullerSquare y = pair(9);
         y.sort(50, 1, 0);
         feedAll(y, "m=0?1;0");
