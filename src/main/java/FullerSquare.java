@@ -110,7 +110,10 @@ public final class FullerSquare {
             return BAD;
         }
         int was = town.mended(number, what, v);
-        changes.add(number, what, was, v);
+        // What leaves MANY or HOLDS as it was is no CHANGE: nothing to UNDO, and DONE AGAIN stays possible.
+        if (was != v) {
+            changes.add(number, what, was, v);
+        }
         return was;
     }
 
@@ -134,13 +137,13 @@ public final class FullerSquare {
     }
 
     public int led(int t, int square, int sort) {
-        if (!ran || !within(t, 0, kept.wish.stroke) || !town.isSquare(square)) {
+        if (!ran || !within(t, 0, kept.wish.stroke) || !kept.hasSquare(square)) {
             return VOID;
         }
         if (sort == -1) {
             return kept.allAtEnd(t, square);
         }
-        return town.isSort(sort) ? kept.atEnd(t, square, sort) : VOID;
+        return kept.hasSort(sort) ? kept.atEnd(t, square, sort) : VOID;
     }
 
     public int told(int what) {
@@ -159,7 +162,7 @@ public final class FullerSquare {
             case 4:
                 return kept.away;
             default:
-                return what >= 10 && town.isSquare(what - 10) ? kept.counts[what - 10] : VOID;
+                return what >= 10 && kept.hasSquare(what - 10) ? kept.counts[what - 10] : VOID;
         }
     }
 
@@ -991,12 +994,22 @@ public final class FullerSquare {
         /** What a LAW is told, in the order of its NAMES. */
         private final int[] seen = new int[8];
         private int seenMinute = 0;
+        /** How many the town had as THE RUN began: those that come later are none of its. */
+        private int squares = 0, sorts = 0;
         final int[] counts = new int[SQUARES];
         int fullest = 0, done = 0, by = 0, away = 0;
 
         Noon(Town town, Laws laws) {
             this.town = town;
             this.laws = laws;
+        }
+
+        boolean hasSquare(int square) {
+            return square >= 0 && square < squares;
+        }
+
+        boolean hasSort(int sort) {
+            return sort >= 0 && sort < sorts;
         }
 
         int atEnd(int t, int square, int sort) {
@@ -1026,6 +1039,8 @@ public final class FullerSquare {
         }
 
         private void begin() {
+            squares = town.squares;
+            sorts = town.sorts;
             for (int i = 0; i < CELLS; i++) {
                 there[i] = 0;
                 outside[i] = 0;

@@ -25,6 +25,7 @@ public final class PromisesTest {
         ledMinutes();
         toldRuns();
         keptRun();
+        cameLater();
         lasts();
         flows();
         fewers();
@@ -36,6 +37,7 @@ public final class PromisesTest {
         servings();
         judgements();
         changes();
+        noChanges();
         bodies();
         acts();
         traces();
@@ -662,6 +664,44 @@ public final class PromisesTest {
         due("by the LAW that came since: told(10)", x.told(10), 100);
     }
 
+    /** SQUARES and SORTS that came after THE RUN are none of its. */
+    private static void cameLater() {
+        FullerSquare x = new FullerSquare();
+        x.square(9, 2);
+        x.run();
+        x.square(9, 1);
+        x.sort(30, 1, 0);
+        promise = 12;
+        due("led(0, 0, 0) of a later SORT", x.led(0, 0, 0), VOID);
+        due("led(30, 0, 0) of a later SORT", x.led(30, 0, 0), VOID);
+        due("led(0, 1, -1) of a later SQUARE", x.led(0, 1, -1), VOID);
+        due("led(0, 1, 0) of both", x.led(0, 1, 0), VOID);
+        due("led(0, 0, -1)", x.led(0, 0, -1), 0);
+        promise = 13;
+        due("told(10)", x.told(10), 0);
+        due("told(11) of a later SQUARE", x.told(11), VOID);
+        x.sooner(0);
+        due("told(11) behind a thought", x.told(11), VOID);
+        x.run();
+        due("told(10)", x.told(10), 3);
+        due("told(11) of a later run", x.told(11), 0);
+        due("told(12)", x.told(12), VOID);
+        promise = 12;
+        due("led(0, 0, 0) of a later run", x.led(0, 0, 0), 3);
+        due("led(0, 1, 0) of a later run", x.led(0, 1, 0), 0);
+        x.sort(40, 11, 0);
+        x.square(9, 0);
+        due("led(0, 1, 1) of a later SORT", x.led(0, 1, 1), VOID);
+        due("led(0, 1, -1) without it", x.led(0, 1, -1), 0);
+        due("led(0, 2, -1) of a later SQUARE", x.led(0, 2, -1), VOID);
+        putAll(x, 0, 1, 20, 1, 0);
+        x.sorts(0, 0, 1);
+        due("led(0, 0, 2) of a SORT from a ROW", x.led(0, 0, 2), VOID);
+        x.run();
+        due("led(0, 1, 1)", x.led(0, 1, 1), 4);
+        due("led(0, 0, 2)", x.led(0, 0, 2), 2);
+    }
+
     // ---- in thought
 
     private static FullerSquare threeInARow() {
@@ -1042,8 +1082,42 @@ public final class PromisesTest {
             fourths(y, 43 - i);
         }
         due("redo()", y.redo(), STATE);
-        y.mend(0, 0, 43);
-        due("a change to the same is one", y.undo(), 39);
+        y.mend(0, 0, 44);
+        due("one more is kept for the first", y.undo(), 39);
+    }
+
+    /** A mend() to what is there already is no CHANGE. */
+    private static void noChanges() {
+        promise = 9;
+        FullerSquare x = pair(1);
+        x.sort(50, 1, 0);
+        due("mend(0, 0, 5) to the same", x.mend(0, 0, 5), 5);
+        due("mend(1, 1, 999) to the same", x.mend(1, 1, 999), 999);
+        due("count(5)", x.count(5), 0);
+        promise = 24;
+        due("undo()", x.undo(), STATE);
+        x.mend(0, 0, 6);
+        x.mend(0, 0, 6);
+        x.mend(1, 1, 999);
+        due("count(5)", x.count(5), 1);
+        due("undo() of the latest that changed", x.undo(), 0);
+        due("of(0, 0)", x.of(0, 0), 5);
+        promise = 25;
+        due("mend(0, 0, 5) to the same behind undo()", x.mend(0, 0, 5), 5);
+        due("redo() behind what changed nothing", x.redo(), 0);
+        due("of(0, 0)", x.of(0, 0), 6);
+        promise = 24;
+        for (int i = 0; i < 39; i++) {
+            x.mend(0, 1, i);
+        }
+        for (int i = 0; i < 5; i++) {
+            x.mend(0, 1, 38);
+        }
+        due("count(5)", x.count(5), 40);
+        for (int i = 39; i >= 0; i--) {
+            due("undo()", x.undo(), i);
+        }
+        due("the first is not forgotten: of(0, 0)", x.of(0, 0), 5);
     }
 
     /** By i changes, the n-th of which made MANY or HOLDS (n % 2) of number n / 2 % 2 to n. */

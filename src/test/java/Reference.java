@@ -107,6 +107,7 @@ final class Reference {
         if (what == 0 && (number >= sorts.size() || v > 200)) return BAD;
         if (what == 1 && (number >= squares.size() || v > 999)) return BAD;
         int was = become(number, what, v);
+        if (v == was) return was;
         undoable.addLast(new Change(number, what, was, v));
         if (undoable.size() > 40) undoable.removeFirst();
         redoable.clear();
@@ -260,7 +261,7 @@ final class Reference {
     }
 
     final class Noon {
-        final int s;
+        final int s, places = squares.size(), groups = sorts.size();
         int lag = Reference.this.lag;
         int standAt = -1, standers = 0, ledSort = -1, ledTo = 0, ledFrom = 0;
         final int[] begins = new int[8], obeys = new int[8];
@@ -391,14 +392,14 @@ final class Reference {
     }
 
     int led(int t, int square, int sort) {
-        if (kept == null || t < 0 || t > kept.s || square < 0 || square >= squares.size()) return VOID;
-        if (sort < -1 || sort >= sorts.size()) return VOID;
+        if (kept == null || t < 0 || t > kept.s || square < 0 || square >= kept.places) return VOID;
+        if (sort < -1 || sort >= kept.groups) return VOID;
         return sort < 0 ? Arrays.stream(kept.ended[t][square]).sum() : kept.ended[t][square][sort];
     }
 
     int told(int what) {
         if (kept == null) return VOID;
-        if (what >= 10 && what < 10 + squares.size()) return kept.at[what - 10];
+        if (what >= 10 && what < 10 + kept.places) return kept.at[what - 10];
         return switch (what) {
             case 0 -> kept.s;
             case 1 -> kept.fullest;
