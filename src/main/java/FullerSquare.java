@@ -252,7 +252,20 @@ public final class FullerSquare {
         if (!makesHundred(row)) {
             return NOT;
         }
-        return town.squares == 0 ? STATE : hundredths(row, thing);
+        if (town.squares == 0) {
+            return STATE;
+        }
+        int sum = 0;
+        for (int e = 0; e < 10; e++) {
+            int w = (int) row.at(e);
+            if (w > 0) {
+                thought.wish.asIn(town);
+                thought.wish.stroke = Math.max(1, town.stroke - e);
+                thought.pass();
+                sum += thought.done == thing ? w : 0;
+            }
+        }
+        return sum;
     }
 
     private static boolean makesHundred(Shelf row) {
@@ -265,20 +278,6 @@ public final class FullerSquare {
             sum += w;
         }
         return sum == 100;
-    }
-
-    private int hundredths(Shelf row, int thing) {
-        int sum = 0;
-        for (int e = 0; e < 10; e++) {
-            int w = (int) row.at(e);
-            if (w > 0) {
-                thought.wish.asIn(town);
-                thought.wish.stroke = Math.max(1, town.stroke - e);
-                thought.pass();
-                sum += thought.done == thing ? w : 0;
-            }
-        }
-        return sum;
     }
 
     public int paid(int square) {

@@ -2,8 +2,19 @@
 final class Check {
     private static int wrong = 0;
     private static int looked = 0;
+    private static String sentence = "";
 
     private Check() {
+    }
+
+    /** The document's sentence that the answers from here on are looked at for. */
+    static void sentence(String told) {
+        sentence = told;
+    }
+
+    /** As due, told with the sentence. */
+    static void is(String call, long got, long want) {
+        due("[" + sentence + "] " + call, got, want);
     }
 
     static void due(String call, long got, long want) {

@@ -1,4 +1,6 @@
+import com.sun.management.ThreadMXBean;
 import java.io.IOException;
+import java.lang.management.ManagementFactory;
 import java.lang.reflect.Field;
 import java.lang.reflect.Method;
 import java.lang.reflect.Modifier;
@@ -27,6 +29,7 @@ public final class LanguageTest {
         face();
         inside();
         words(Files.readString(FILE));
+        room();
         Check.end();
     }
 
@@ -87,9 +90,9 @@ public final class LanguageTest {
         }
         String code = file.replaceAll("(?s)/\\*.*?\\*/", " ").replaceAll("//[^\n]*", " ")
             .replaceAll("'.'", "' '").replaceAll("\"[^\"\n]*\"", "\"\"");
-        String[] never = {"throw", "throws", "try", "catch", "synchronized", "assert", "import", "package",
-            "System.exit", "Exception", "Error", "Thread", "native", "volatile", "transient", "protected",
-            "hashCode", "equals", "toString", "var", "yield", "instanceof", "Random", "nanoTime"};
+        String[] never = {"throw", "throws", "try", "catch", "synchronized", "assert", "package", "System.exit", "Thread",
+            "native", "volatile", "transient", "protected", "hashCode", "yield", "Random", "Math.random", "nanoTime",
+            "currentTimeMillis"};
         for (String word : never) {
             Matcher m = Pattern.compile("\\b" + Pattern.quote(word) + "\\b").matcher(code);
             Check.isTrue("the word " + word, !m.find());
@@ -97,20 +100,60 @@ public final class LanguageTest {
         for (String sign : new String[] {"->", "::", "Exact(", "@"}) {
             Check.isTrue("the sign " + sign, !code.contains(sign));
         }
-        Matcher library = Pattern.compile("\\b(System|Math|Arrays|Integer|Long|String)\\.(\\w+)").matcher(code);
-        Set<String> used = new TreeSet<>();
-        while (library.find()) used.add(library.group());
-        Check.isTrue("the library: " + used, Set.of("System.arraycopy", "Math.max", "Math.min", "Integer.MAX_VALUE",
-            "Long.MIN_VALUE").containsAll(used));
-        Check.isTrue("new only in fields and in the constructor", newsStandWell(code));
+        library(code);
+        lengths(file);
     }
 
-    /** All rows are made with the object: a line with new is a field's, or the one that makes the SHELVES. */
-    private static boolean newsStandWell(String code) {
-        for (String line : code.split("\n")) {
-            boolean makes = Pattern.compile("\\bnew \\w+[\\[(]").matcher(line).find();
-            if (makes && !line.contains("final ") && !line.contains("= new Shelf()")) return false;
+    private static void library(String code) {
+        Set<String> functions = Set.of("compare", "max", "min", "abs", "signum", "bitCount", "floorDiv", "floorMod",
+            "highestOneBit", "lowestOneBit", "numberOfLeadingZeros", "numberOfTrailingZeros", "rotateLeft", "rotateRight",
+            "compareUnsigned", "divideUnsigned", "remainderUnsigned", "MAX_VALUE", "MIN_VALUE");
+        Matcher number = Pattern.compile("\\b(Math|Integer|Long)\\.(\\w+)").matcher(code);
+        while (number.find()) Check.isTrue("the library: " + number.group(), functions.contains(number.group(2)));
+        Set<String> others = Set.of("System.arraycopy", "Arrays.copyOf", "Arrays.copyOfRange", "Arrays.fill", "List.of");
+        Matcher other = Pattern.compile("\\b(System|Arrays|List|String|Character|Objects)\\.(\\w+)").matcher(code);
+        while (other.find()) Check.isTrue("the library: " + other.group(), others.contains(other.group()));
+        Matcher imported = Pattern.compile("\\bimport\\s+([\\w.]+)").matcher(code);
+        Set<String> lists = Set.of("java.util.ArrayList", "java.util.List", "java.util.Arrays", "java.util.Iterator");
+        while (imported.find()) Check.isTrue("import of " + imported.group(1), lists.contains(imported.group(1)));
+    }
+
+    /** A method is what stands between two lines that open and close it at the depth of a class's member. */
+    private static void lengths(String file) {
+        String indent = "";
+        int opened = -1, at = 0;
+        for (String line : file.split("\n")) {
+            at++;
+            Matcher head = Pattern.compile("^( {4}| {8})[\\w\\[\\]]+.*\\) \\{$").matcher(line);
+            if (opened < 0 && head.find() && !line.contains(" class ")) {
+                indent = head.group(1);
+                opened = at;
+            } else if (opened >= 0 && line.equals(indent + "}")) {
+                Check.isTrue("the method from line " + opened + " has at most 60 lines", at - opened < 60);
+                opened = -1;
+            }
         }
-        return true;
+        Check.isTrue("every method is closed", opened < 0);
+    }
+
+    /** All calls of one run live in one room: what 512 of the dearest ones make stays far below it. */
+    private static void room() {
+        if (!(ManagementFactory.getThreadMXBean() instanceof ThreadMXBean threads)) return;
+        if (!threads.isThreadAllocatedMemorySupported() || !threads.isThreadAllocatedMemoryEnabled()) return;
+        long id = Thread.currentThread().getId();
+        long before = threads.getThreadAllocatedBytes(id);
+        FullerSquare x = new FullerSquare();
+        for (int i = 0; i < 4; i++) x.square(999, i % 3);
+        for (int i = 0; i < 12; i++) x.way(i % 2 == 0 ? 1 : 23, 1 + i, 9);
+        for (int k = 0; k < 8; k++) x.sort(2000 + k % 2, 10 * (k % 4) + 1, k % 4);
+        x.set(0, 60);
+        for (char c : "q".toCharArray()) x.feed(c);
+        x.law();
+        for (int i = 0; i < 220; i++) {
+            x.paid(i % 4);
+            x.lead(i % 4);
+        }
+        long made = threads.getThreadAllocatedBytes(id) - before;
+        Check.isTrue("a run makes " + made + " bytes", made < 20_000_000);
     }
 }
