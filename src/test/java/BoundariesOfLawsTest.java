@@ -98,6 +98,10 @@ public final class BoundariesOfLawsTest {
         Check.is("law() of 119", y.law(), 0);
         y.run();
         Check.is("it is worked out: told(1)", y.told(1), 2);
+        String longest = "-k" + "+k".repeat(58) + "+2";
+        Check.is("a text of 120, each of which does something", longest.length(), 120);
+        sends(longest, 2);
+        sends("0?1;".repeat(29) + "1--1", 2);
     }
 
     // ---- promise 7
@@ -558,7 +562,7 @@ public final class BoundariesOfLawsTest {
         FullerSquare y = Towns.squares(2, 2, 2);
         y.way(1, 1, 1);
         y.way(12, 1, 9);
-        y.sort(30, 1, 0);
+        y.sort(50, 1, 0);
         Towns.law(y, "q=0?1;q=1&n=1&h=0?2;q");
         y.run();
         Check.is("who came in this MINUTE is there now: led(1, 1, 0)", y.led(1, 1, 0), 0);

@@ -7,6 +7,7 @@ public final class BoundariesOfRunsTest {
         noneAtFirst();
         latestIsKept();
         shortestAndLongest();
+        longestOfTheFullest();
         holdsDoesNotMatterAtFirst();
         seenAsMinuteBegan();
         seenLate();
@@ -118,6 +119,35 @@ public final class BoundariesOfRunsTest {
                 Check.is("led(" + t + ", 1, 0)", x.led(t, 1, 0), t);
             }
             Check.is("nobody goes at the stroke", x.led(stroke, 0, 0), 200 - stroke);
+        }
+    }
+
+    private static void longestOfTheFullest() {
+        Check.sentence("11: 4 SQUARES, 12 WAYS, 8 SORTS, 60 MINUTES");
+        FullerSquare x = Towns.squares(0, 1, 2, 1);
+        for (int w = 0; w < 12; w++) {
+            x.way(w % 2 == 0 ? 23 : 1, 12 - w, 1 + w);
+        }
+        x.sort(2000, 1, 3);
+        x.sort(30, 21, 0);
+        for (int k = 2; k < 8; k++) {
+            x.sort(10, 31, 1);
+        }
+        Towns.law(x, "f=3?3;q");
+        Towns.law(x, "q");
+        x.set(0, 60);
+        x.set(2, 20);
+        for (int lag = 0; lag <= 9; lag += 9) {
+            x.set(1, lag);
+            x.mend(0, 0, 200);
+            Check.is("LAG " + lag + ": run()", x.run(), 0);
+            Check.is("SQUARE 0 is the fullest: led(60, 2, 1)", x.led(60, 2, 1), 3);
+            x.mend(0, 0, 5);
+            Check.is("LAG " + lag + ": run()", x.run(), 1);
+            Check.is("SQUARE 3 is the fullest: led(60, 3, 1)", x.led(60, 3, 1), 3);
+            Check.is("told(13)", x.told(13), 9);
+            Check.is("told(3)", x.told(3), 4);
+            Check.is("told(4)", x.told(4), 0);
         }
     }
 
@@ -306,18 +336,24 @@ public final class BoundariesOfRunsTest {
     }
 
     private static void fewestMinutes() {
-        Check.sentence("11: of several WAYS that with the fewest MINUTES");
-        for (int ab = 1; ab <= 10; ab += 9) {
+        Check.sentence("11: of several WAYS that with the fewest MINUTES, then the first");
+        for (int order = 0; order < 27; order++) {
+            int[] minutes = {1 + order % 3, 1 + order / 3 % 3, 1 + order / 9};
             FullerSquare x = Towns.squares(2, 1);
-            x.way(ab, 5, 99);
-            x.way(11 - ab, 2, 3);
-            x.way(ab, 3, 99);
+            int best = 0;
+            for (int w = 0; w < 3; w++) {
+                x.way(w == 1 ? 10 : 1, minutes[w], w + 2);
+                best = minutes[w] < minutes[best] ? w : best;
+            }
             x.sort(91, 1, 0);
+            x.sort(90, 11, 0);
+            Towns.law(x, "m=30?1-q;q");
             x.run();
-            Check.is("led(0, 0, 0)", x.led(0, 0, 0), 6);
-            Check.is("led(1, 1, 0)", x.led(1, 1, 0), 0);
-            Check.is("led(2, 1, 0)", x.led(2, 1, 0), 3);
-            Check.is("the others are not gone on: led(3, 1, 0)", x.led(3, 1, 0), 6);
+            String told = minutes[0] + ", " + minutes[1] + ", " + minutes[2] + " MINUTES: ";
+            Check.is(told + "led(0, 0, 0)", x.led(0, 0, 0), 9 - (best + 2));
+            Check.is(told + "led(0, 1, 1)", x.led(0, 1, 1), 9 - (best + 2));
+            Check.is(told + "not yet there", x.led(minutes[best] - 1, 1, 0), 0);
+            Check.is(told + "there", x.led(minutes[best], 1, 0), best + 2);
         }
     }
 
@@ -597,6 +633,15 @@ public final class BoundariesOfRunsTest {
             Check.is("led(30, " + square + ", -1)", y.led(30, square, -1), square + 1);
         }
         Check.is("led(30, 4, -1)", y.led(30, 4, -1), VOID);
+        FullerSquare z = Towns.squares(0, 1, 2, 1);
+        for (int k = 0; k < 8; k++) {
+            z.sort(10 << k % 7, 10 * (3 - k % 4) + 1, 3);
+        }
+        z.run();
+        int[] due = {8 + 1, 4 + 64, 2 + 32, 1 + 16};
+        for (int square = 0; square < 4; square++) {
+            Check.is("of all: led(30, " + square + ", -1)", z.led(30, square, -1), due[square]);
+        }
     }
 
     private static void ledSorts() {

@@ -153,8 +153,18 @@ public final class BoundariesOfShelvesTest {
                 Check.is("KIND " + kind + ": act(" + n + ", 0, 100)", x.act(n, 0, 100), (100 + n) * times + more - less);
                 int waits = kind == 3 ? (5 ^ n) * 3 : kind == 5 ? (5 ^ n) - (2 + n + 3) : 5 ^ n;
                 Check.is("KIND " + kind + ": act(" + n + ", 2, 5)", x.act(n, 2, 5), waits);
+                seesAndTells(x, kind, n);
             }
         }
+    }
+
+    private static void seesAndTells(FullerSquare x, int kind, int n) {
+        int goes = x.act(n, 0, kind == 3 ? 101 : 100);
+        int sees = kind == 2 || kind == 3 ? -2 * goes : kind == 7 ? 2 * goes + (2 ^ n) : 2 * goes;
+        Check.is("KIND " + kind + ": act(" + n + ", 1, 100)", x.act(n, 1, 100), sees);
+        int tells = sees - x.act(n, 2, 1);
+        tells = kind == 4 ? tells ^ 5 : kind == 5 ? (tells ^ 5) + 1 : tells;
+        Check.is("KIND " + kind + ": act(" + n + ", 3, 100)", x.act(n, 3, 100), tells);
     }
 
     private static void traceBad() {

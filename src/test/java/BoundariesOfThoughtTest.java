@@ -18,6 +18,7 @@ public final class BoundariesOfThoughtTest {
         oftenThing();
         oftenWithoutSquares();
         oftenBySeed();
+        oftenToTheStroke();
         soonerLags();
         soonerWithoutSquares();
         bellThing();
@@ -54,6 +55,7 @@ public final class BoundariesOfThoughtTest {
         fortyAtMost();
         fortyAgain();
         noChange();
+        thoughtsByThemselves();
         thoughtsAreNotKept();
         Check.end();
     }
@@ -86,10 +88,14 @@ public final class BoundariesOfThoughtTest {
         Check.is("without anything: last(1)", new FullerSquare().last(1), BAD);
         FullerSquare full = Towns.squares(0, 0, 0);
         for (int k = 0; k < 8; k++) {
-            full.sort(0, 1, 0);
+            full.sort(0, k == 7 ? 3 : 2, 0);
         }
         full.way(12, 1, 1);
-        Check.is("the last SORT: last(721)", full.last(721), 29);
+        full.way(1, 2, 7);
+        Check.is("the last SORT: last(721)", full.last(721), 27);
+        Check.is("the last SORT: last(701)", full.last(701), 24);
+        Check.is("the last SORT: flow(701)", full.flow(701), 7 * 25);
+        Check.is("the last but one: last(621)", full.last(621), 28);
         Check.is("no such SORT: last(821)", full.last(821), BAD);
         Check.is("no such SQUARE: last(723)", full.last(723), BAD);
         Check.is("no such SQUARE: last(732)", full.last(732), BAD);
@@ -314,6 +320,25 @@ public final class BoundariesOfThoughtTest {
         }
     }
 
+    private static void oftenToTheStroke() {
+        Check.sentence("17: OFTEN: DONE of a RUN to THE STROKE");
+        for (int minutes = 1; minutes <= 30; minutes += 29) {
+            FullerSquare x = Towns.pair(minutes, 99);
+            x.sort(91, 1, 0);
+            int begins = 0;
+            for (int i = 0, z = 5; i < 20; i++) {
+                z = z * 1103515245 + 12345;
+                begins += (z >>> 8) % 2;
+            }
+            x.set(0, minutes);
+            Check.is("all come by " + minutes + ": often(5, 201)", x.often(5, 201), 20);
+            if (minutes > 1) {
+                x.set(0, minutes - 1);
+                Check.is("none comes by less: often(5, 201)", x.often(5, 201), begins);
+            }
+        }
+    }
+
     // ---- promise 18
 
     /**
@@ -434,6 +459,13 @@ public final class BoundariesOfThoughtTest {
                 Check.is("w_" + e + " is " + w + ", the next " + (100 - w), x.bell(0, 0), w <= 100 ? 100 : NOT);
             }
         }
+        FullerSquare x = Towns.squares(0);
+        Towns.row(x, 0, Towns.BYTES, 0, 0, 0, 0, 0, 0, 0, -1, 1, 100);
+        Check.is("-1, 1, 100: bell(0, 0)", x.bell(0, 0), NOT);
+        Towns.row(x, 0, Towns.BYTES, -128, 100, 100, 28, 0, 0, 0, 0, 0, 0);
+        Check.is("-128, 100, 100, 28: bell(0, 0)", x.bell(0, 0), NOT);
+        Towns.row(x, 0, Towns.BYTES, 101, 0, 0, 0, 0, 0, 0, 0, 0, 0);
+        Check.is("101: bell(0, 0)", x.bell(0, 0), NOT);
     }
 
     private static void bellWithoutSquares() {
@@ -614,6 +646,21 @@ public final class BoundariesOfThoughtTest {
         Check.is("led it goes: lead(1)", y.lead(1), 28);
         Check.is("the other SORT stays by the same LAW: lead(10)", y.lead(10), 29);
         Check.is("led it stays: lead(0)", y.lead(0), NOT);
+        FullerSquare z = Towns.pair(20, 9);
+        z.sort(51, 11, 0);
+        z.sort(30, 1, 1);
+        Towns.law(z, "0");
+        Towns.law(z, "q");
+        Check.is("till then it stays where it is: lead(1)", z.lead(1), 29);
+        FullerSquare v = Towns.pair(3, 9);
+        v.sort(50, 11, 0);
+        Towns.law(v, "0;q");
+        v.set(0, 9);
+        Check.is("from then on it goes: lead(0)", v.lead(0), 8);
+        v.sort(20, 11, 0);
+        v.sort(31, 11, 1);
+        Towns.law(v, "q");
+        Check.is("it has to come in time: lead(0)", v.lead(0), 6);
     }
 
     private static void leadNot() {
@@ -826,13 +873,28 @@ public final class BoundariesOfThoughtTest {
 
     // ---- promises 24 and 25
 
+    /** The i-th change makes MANY or HOLDS (i % 2) of the one or the other (i / 2 % 2) to i. */
     private static FullerSquare mended(int changes) {
-        FullerSquare x = Towns.squares(0, 0);
-        x.sort(0, 1, 0);
+        FullerSquare x = new FullerSquare();
+        for (int i = 0; i < 2; i++) {
+            x.square(0, 0);
+            x.sort(0, 1, 0);
+        }
         for (int i = 1; i <= changes; i++) {
-            x.mend(0, 0, i);
+            x.mend(i / 2 % 2, i % 2, i);
         }
         return x;
+    }
+
+    private static void isMended(FullerSquare x, int changes) {
+        for (int field = 0; field < 4; field++) {
+            int due = 0;
+            for (int i = 1; i <= changes; i++) {
+                due = i % 4 == field ? i : due;
+            }
+            int what = field % 2 == 0 ? 0 : 10;
+            Check.is("behind " + changes + ": of(" + field / 2 + ", " + what + ")", x.of(field / 2, what), due);
+        }
     }
 
     private static void undoNone() {
@@ -874,20 +936,20 @@ public final class BoundariesOfThoughtTest {
 
     private static void redoNone() {
         Check.sentence("25: STATE: none; how many may still be");
-        FullerSquare x = mended(3);
+        FullerSquare x = mended(5);
         Check.is("redo()", x.redo(), STATE);
-        Check.is("of(0, 0)", x.of(0, 0), 3);
-        x.undo();
-        x.undo();
-        x.undo();
-        x.undo();
-        for (int i = 1; i <= 3; i++) {
-            Check.is("redo()", x.redo(), 3 - i);
-            Check.is("of(0, 0)", x.of(0, 0), i);
+        isMended(x, 5);
+        for (int i = 0; i < 6; i++) {
+            x.undo();
+        }
+        isMended(x, 0);
+        for (int i = 1; i <= 5; i++) {
+            Check.is("redo()", x.redo(), 5 - i);
+            isMended(x, i);
             Check.is("count(5)", x.count(5), i);
         }
         Check.is("redo()", x.redo(), STATE);
-        Check.is("of(0, 0)", x.of(0, 0), 3);
+        isMended(x, 5);
         Check.is("new: redo()", new FullerSquare().redo(), STATE);
     }
 
@@ -903,71 +965,125 @@ public final class BoundariesOfThoughtTest {
         x.mend(0, 0, -1);
         x.mend(9, 1, 1);
         Check.is("others that are no CHANGE: redo()", x.redo(), 1);
+        isMended(x, 2);
         x.mend(0, 1, 7);
         Check.is("behind another one: redo()", x.redo(), STATE);
-        Check.is("of(0, 0)", x.of(0, 0), 2);
+        Check.is("of(1, 10)", x.of(1, 10), 0);
         Check.is("undo()", x.undo(), 2);
-        Check.is("of(0, 10)", x.of(0, 10), 999);
+        isMended(x, 2);
         Check.is("redo() of the other one", x.redo(), 0);
         Check.is("of(0, 10)", x.of(0, 10), 7);
     }
 
     private static void fortyAtMost() {
         Check.sentence("24: 40 at most are kept");
-        for (int changes = 38; changes <= 85; changes += changes < 42 ? 1 : 43) {
+        for (int changes = 38; changes <= 85; changes += changes < 43 ? 1 : 42) {
             FullerSquare x = mended(changes);
             int kept = Math.min(40, changes);
             Check.is(changes + " changes: count(5)", x.count(5), kept);
             for (int i = kept - 1; i >= 0; i--) {
                 Check.is(changes + " changes: undo()", x.undo(), i);
+                isMended(x, changes - kept + i);
             }
-            Check.is(changes + " changes: of(0, 0)", x.of(0, 0), changes - kept);
             Check.is(changes + " changes: undo()", x.undo(), STATE);
-            Check.is(changes + " changes: of(0, 0)", x.of(0, 0), changes - kept);
+            isMended(x, changes - kept);
         }
     }
 
     private static void fortyAgain() {
         Check.sentence("25: 40 at most are kept, to be DONE AGAIN too");
-        FullerSquare x = mended(41);
+        FullerSquare x = mended(43);
         for (int i = 0; i < 40; i++) {
             x.undo();
         }
-        Check.is("of(0, 0)", x.of(0, 0), 1);
+        isMended(x, 3);
         for (int i = 39; i >= 0; i--) {
             Check.is("redo()", x.redo(), i);
+            isMended(x, 43 - i);
         }
-        Check.is("of(0, 0)", x.of(0, 0), 41);
         Check.is("redo()", x.redo(), STATE);
         Check.is("count(5)", x.count(5), 40);
+        FullerSquare y = mended(43);
         for (int i = 0; i < 5; i++) {
-            x.undo();
+            y.undo();
         }
-        x.mend(0, 0, 100);
-        Check.is("35 and one: count(5)", x.count(5), 36);
+        y.mend(0, 0, 100);
+        Check.is("35 and one: count(5)", y.count(5), 36);
         for (int i = 0; i < 5; i++) {
-            x.mend(0, 0, 101 + i);
+            y.mend(0, 0, 101 + i);
         }
-        Check.is("one too many: count(5)", x.count(5), 40);
+        Check.is("one too many: count(5)", y.count(5), 40);
+        Check.is("redo()", y.redo(), STATE);
         for (int i = 0; i < 40; i++) {
-            x.undo();
+            y.undo();
         }
-        Check.is("of(0, 0): the first was forgotten", x.of(0, 0), 2);
+        isMended(y, 4);
+        Check.is("undo()", y.undo(), STATE);
     }
 
     private static void noChange() {
         Check.sentence("9, 24: what is as it was has not changed: it is no CHANGE");
         FullerSquare x = mended(40);
         Check.is("mend(0, 0, 40)", x.mend(0, 0, 40), 40);
-        Check.is("mend(0, 1, 999)", x.mend(0, 1, 999), 999);
+        Check.is("mend(1, 1, 39)", x.mend(1, 1, 39), 39);
         Check.is("count(5)", x.count(5), 40);
         x.undo();
-        x.mend(0, 0, 39);
+        x.mend(1, 1, 39);
         Check.is("redo()", x.redo(), 0);
         for (int i = 0; i < 40; i++) {
             x.undo();
         }
-        Check.is("none was pushed out: of(0, 0)", x.of(0, 0), 0);
+        isMended(x, 0);
+    }
+
+    private static long thought(FullerSquare x, int which) {
+        switch (which) {
+            case 0:
+                return x.fewer(1);
+            case 1:
+                return x.often(3, 201);
+            case 2:
+                return x.sooner(7);
+            case 3:
+                return x.bell(0, 1);
+            case 4:
+                return x.paid(1);
+            case 5:
+                return x.lead(1);
+            case 6:
+                return x.serves(0);
+            default:
+                return x.run();
+        }
+    }
+
+    private static FullerSquare town(int which) {
+        FullerSquare x = which == 0 ? turnedIfSeen(4) : Towns.pair(which, 9);
+        if (which > 0) {
+            x.sort(90, 1, 3);
+            x.sort(61, 11, 1);
+            x.sort(51, 1, 0);
+            Towns.law(x, "m>9?q;1");
+            Towns.law(x, "h<8?q;0");
+            x.set(0, 9 + which);
+            x.set(1, which);
+        }
+        Towns.row(x, 0, Towns.BYTES, 0, 0, 0, 50, 0, 0, 0, 0, 0, 50);
+        return x;
+    }
+
+    private static void thoughtsByThemselves() {
+        Check.sentence("14 to 23: in thought, each by itself");
+        for (int which = 0; which < 4; which++) {
+            for (int first = 0; first < 8; first++) {
+                for (int second = 0; second < 8; second++) {
+                    FullerSquare x = town(which);
+                    thought(x, first);
+                    String told = "town " + which + ": thought " + second + " behind " + first;
+                    Check.is(told, thought(x, second), thought(town(which), second));
+                }
+            }
+        }
     }
 
     private static void thoughtsAreNotKept() {
