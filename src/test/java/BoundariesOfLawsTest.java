@@ -212,7 +212,7 @@ public final class BoundariesOfLawsTest {
         behind("(m", ")", JOINS + COMPARES);
         behind("((m)", ")", JOINS + COMPARES);
         behind("((m", "", ")" + JOINS + COMPARES);
-        behind("(m<1", ")" , DIGITS + JOINS);
+        behind("(m<1", ")", DIGITS + JOINS);
         behind("(m<1)", "", JOINS + COMPARES + "?;");
     }
 

@@ -245,7 +245,6 @@ public final class BoundariesOfTownTest {
     private static void rowOfSortsPlaces() {
         Check.sentence("5: from place i on; 0 with i below 0");
         long[] threes = {10, 1, 0, 20, 1, 0};
-        int[] first = {10, 1, 0};
         Check.is("sorts(0, -1, 1)", withRow(threes).sorts(0, -1, 1), 0);
         Check.is("sorts(0, -3, 2)", withRow(threes).sorts(0, -3, 2), 0);
         Check.is("sorts(0, MIN, 8)", withRow(threes).sorts(0, MIN, 8), 0);
@@ -256,9 +255,10 @@ public final class BoundariesOfTownTest {
         Check.is("sorts(0, 7, 1)", withRow(threes).sorts(0, 7, 1), 0);
         Check.is("sorts(0, MAX, 8)", withRow(threes).sorts(0, MAX, 8), 0);
         Check.is("sorts(0, MAX - 2, 8)", withRow(threes).sorts(0, MAX - 2, 8), 0);
-        FullerSquare below = withRow(first[0], first[1], first[2]);
-        Check.is("sorts(0, -1, 1) of one", below.sorts(0, -1, 1), 0);
-        Check.is("count(2)", below.count(2), 0);
+        FullerSquare below = withRow(1, 0, 10, 1, 0);
+        Check.is("sorts(0, -1, 1), where 2 is a place", below.sorts(0, -1, 1), 0);
+        Check.is("sorts(0, 2, 1)", below.sorts(0, 2, 1), 1);
+        Check.is("count(2)", below.count(2), 1);
         FullerSquare x = withRow(threes);
         x.sorts(0, 3, 1);
         Check.is("of(0, 0) from place 3 on", x.of(0, 0), 2);
