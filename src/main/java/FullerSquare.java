@@ -1043,7 +1043,7 @@ public final class FullerSquare {
             for (int i = 0; i < CELLS; i++) {
                 there[i] = 0;
                 outside[i] = 0;
-                least[i] = Integer.MAX_VALUE;
+                least[i] = MOST_PEOPLE;
             }
             for (int i = 0; i < (wish.stroke + 1) * CELLS; i++) {
                 due[i] = 0;

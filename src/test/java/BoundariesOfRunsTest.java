@@ -15,6 +15,7 @@ public final class BoundariesOfRunsTest {
         lastRoom();
         roomBelowZero();
         squareBySquareSortBySort();
+        dueTogether();
         waitOutside();
         roomInALaterMinute();
         whereAWayLeads();
@@ -276,6 +277,34 @@ public final class BoundariesOfRunsTest {
         Check.is("the second SORT: led(1, 1, 1)", x.led(1, 1, 1), 1);
         Check.is("the third SORT: led(1, 1, 2)", x.led(1, 1, 2), 0);
         Check.is("told(4)", x.told(4), 5);
+    }
+
+    private static void dueTogether() {
+        Check.sentence("11: those who are due by t: from several SQUARES, from several MINUTES");
+        FullerSquare x = Towns.squares(2, 2, 1);
+        x.way(1, 1, 3);
+        x.way(2, 1, 9);
+        x.way(12, 1, 9);
+        x.sort(70, 1, 0);
+        Towns.law(x, "q=0&m=30?1;2");
+        x.run();
+        Check.is("from MINUTE 0 in SQUARE 1: led(0, 0, 0)", x.led(0, 0, 0), 4);
+        Check.is("all on WAYS: led(1, 2, -1)", x.led(1, 2, -1), 0);
+        Check.is("out of 0 and 1: led(2, 2, 0)", x.led(2, 2, 0), 7);
+        Check.is("told(4)", x.told(4), 0);
+        FullerSquare late = Towns.squares(2, 2, 1);
+        late.way(1, 1, 3);
+        late.way(2, 2, 9);
+        late.way(12, 1, 9);
+        late.sort(70, 1, 0);
+        Towns.law(late, "m=4?1;m=3&q=1?1;2");
+        late.set(0, 4);
+        late.run();
+        Check.is("out of 0 in MINUTE 1: led(1, 0, 0)", late.led(1, 0, 0), 0);
+        Check.is("still in 1: led(1, 1, 0)", late.led(1, 1, 0), 3);
+        Check.is("out of 1 in MINUTE 2: led(2, 1, 0)", late.led(2, 1, 0), 0);
+        Check.is("all are due in MINUTE 3: led(2, 2, 0)", late.led(2, 2, 0), 0);
+        Check.is("led(3, 2, 0)", late.led(3, 2, 0), 7);
     }
 
     private static void waitOutside() {

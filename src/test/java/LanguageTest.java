@@ -107,9 +107,13 @@ public final class LanguageTest {
     private static void library(String code) {
         Set<String> functions = Set.of("compare", "max", "min", "abs", "signum", "bitCount", "floorDiv", "floorMod",
             "highestOneBit", "lowestOneBit", "numberOfLeadingZeros", "numberOfTrailingZeros", "rotateLeft", "rotateRight",
-            "compareUnsigned", "divideUnsigned", "remainderUnsigned", "MAX_VALUE", "MIN_VALUE");
+            "compareUnsigned", "divideUnsigned", "remainderUnsigned");
         Matcher number = Pattern.compile("\\b(Math|Integer|Long)\\.(\\w+)").matcher(code);
-        while (number.find()) Check.isTrue("the library: " + number.group(), functions.contains(number.group(2)));
+        while (number.find()) {
+            // Long.MIN_VALUE is no function, but the document itself names it (promise 32).
+            boolean listed = functions.contains(number.group(2)) || number.group().equals("Long.MIN_VALUE");
+            Check.isTrue("the library: " + number.group(), listed);
+        }
         Set<String> others = Set.of("System.arraycopy", "Arrays.copyOf", "Arrays.copyOfRange", "Arrays.fill", "List.of");
         Matcher other = Pattern.compile("\\b(System|Arrays|List|String|Character|Objects)\\.(\\w+)").matcher(code);
         while (other.find()) Check.isTrue("the library: " + other.group(), others.contains(other.group()));

@@ -40,6 +40,10 @@ public final class RefusedTest {
         refusedWhenEmpty(new RefusedTest("empty", RefusedTest::empty));
         Check.sentence("27: 0, and no TRACE then");
         noActChangesTheTraceAlone();
+        Check.sentence("all memory is the class's own");
+        some.besideAnother(RefusedTest::full);
+        some.besideAnother(RefusedTest::some);
+        full.besideAnother(RefusedTest::some);
         Check.end();
     }
 
@@ -191,6 +195,17 @@ public final class RefusedTest {
         FullerSquare x = town.get();
         call.applyAsLong(x);
         same(told, x);
+    }
+
+    /** Nothing that another object is asked changes this one. */
+    private void besideAnother(Supplier<FullerSquare> other) {
+        FullerSquare x = town.get();
+        FullerSquare beside = other.get();
+        beside.square(1, 1);
+        beside.paid(0);
+        beside.often(1, 200);
+        picture(beside);
+        same("the calls of another object", x);
     }
 
     private void same(String told, FullerSquare x) {
