@@ -35,6 +35,8 @@ public final class BoundariesOfLawsTest {
         whatIsNoOtherSquare();
         minutesLeft();
         sortAndWant();
+        lawOfEachSort();
+        tapeIsNoLawYet();
         whereTheyAre();
         howManyNow();
         fullestSeen();
@@ -526,6 +528,56 @@ public final class BoundariesOfLawsTest {
         for (int k = 0; k < 8; k++) {
             int due = k == 0 || k == 7 ? 2 : k / 2 % 2;
             Check.is("SORT " + k + " is in SQUARE " + due, x.led(30, due, k), 1);
+        }
+    }
+
+    private static void lawOfEachSort() {
+        Check.sentence("4: a LAW (0 .. 3) of each SORT 0 .. 7");
+        for (int more = 0; more < 4; more++) {
+            FullerSquare x = Towns.squares(2, 2, 2, 2);
+            int[] ways = {1, 2, 3, 12, 13, 23};
+            for (int ab : ways) {
+                x.way(ab, 1, 99);
+            }
+            for (int k = 0; k < 8; k++) {
+                x.sort(10, 10 * (k / 2) + 1, (k + more) % 4);
+            }
+            for (int number = 0; number < 4; number++) {
+                Towns.law(x, "" + number);
+            }
+            x.run();
+            for (int k = 0; k < 8; k++) {
+                Check.is("led(30, " + (k + more) % 4 + ", " + k + ")", x.led(30, (k + more) % 4, k), 1);
+            }
+        }
+    }
+
+    private static void tapeIsNoLawYet() {
+        Check.sentence("7: LAWS as they come by THE TAPE: what is on it, or was faulty, is none");
+        FullerSquare x = Towns.pair(1, 9);
+        x.square(999, 2);
+        x.way(2, 1, 9);
+        x.sort(10, 1, 0);
+        x.sort(11, 1, 1);
+        Towns.law(x, "1+(0*(2+3))");
+        int[] bytes = {0, 1, 63, 64, 119, 120};
+        for (int n : bytes) {
+            while (x.count(4) < n) {
+                x.feed('2');
+            }
+            x.run();
+            Check.is(n + " bytes on THE TAPE: led(1, 1, 0)", x.led(1, 1, 0), 1);
+            Check.is(n + " bytes on THE TAPE, LAW 1: led(1, 1, 1)", x.led(1, 1, 1), 1);
+            Check.is(n + " bytes on THE TAPE: serves(0)", x.serves(0), 0);
+        }
+        String[] faulty = {"z", "2z", "2+"};
+        x.law();
+        for (String text : faulty) {
+            Towns.law(x, text);
+            x.run();
+            Check.is("behind " + text + ": led(1, 1, 0)", x.led(1, 1, 0), 1);
+            Check.is("behind " + text + ": serves(0)", x.serves(0), 0);
+            Check.is("behind " + text + ": count(3)", x.count(3), 1);
         }
     }
 
